@@ -7,6 +7,7 @@ public final class CursorTest {
         promise13SeekWithoutKeyHasNoCursor();
         promise13SeekRefusesWrongKeys();
         promise14NextGoesThroughAllKeys();
+        promise14NextGoesToTheKeyBeside();
         promise14NextWithoutCursorThrows();
         promise15KeyAndPromise16ValueWithoutCursor();
         promise16ValueIsTheNewest();
@@ -79,6 +80,17 @@ public final class CursorTest {
         }
         DUE.is("next() at the end", false, store.next());
         DUE.is("next() at the end: key()", RunStore.NONE, store.key());
+    }
+
+    private static void promise14NextGoesToTheKeyBeside() {
+        RunStore store = Stores.formatted();
+        Stores.flushKeys(store, 96, 4);
+        store.seek(0);
+        for (int key = 97; key <= 99; key++) {
+            DUE.is("next() to the key beside", true, store.next());
+            DUE.is("next() to the key beside: key()", key, store.key());
+        }
+        DUE.is("next() at key 99", false, store.next());
     }
 
     private static void promise14NextWithoutCursorThrows() {
