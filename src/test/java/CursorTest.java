@@ -1,4 +1,7 @@
-/** Promises 13 to 16: seek, next, key, value; and when the cursor is gone. */
+/**
+ * Promises 13 to 16: seek, next, key, value; and when the cursor is gone. The sentences of a promise stand over the
+ * tests of them.
+ */
 public final class CursorTest {
     private static final Due DUE = new Due("CursorTest");
 
@@ -10,6 +13,7 @@ public final class CursorTest {
         promise14NextGoesToTheKeyBeside();
         promise14NextWithoutCursorThrows();
         promise15KeyAndPromise16ValueWithoutCursor();
+        promise15KeyAndPromise16ValueOfADownStore();
         promise16ValueIsTheNewest();
         cursorIsGoneAfterCallsThatChange();
         cursorIsGoneThoughNothingHappens();
@@ -35,6 +39,9 @@ public final class CursorTest {
         store.remove(6);
         return store;
     }
+
+    // "The CURSOR goes to the least key from this one on that is there; false when there is none (there is no cursor
+    // then)."
 
     private static void promise13SeekGoesToTheLeastKeyFromThereOn() {
         RunStore store = withKeysEverywhere();
@@ -68,6 +75,9 @@ public final class CursorTest {
         DUE.is("seek refused: key()", 5, store.key());
     }
 
+    // "The cursor goes to the next key that is there; false when there is none (there is no cursor then; a call that
+    // throws leaves it)." and "IllegalStateException also when there is no cursor."
+
     private static void promise14NextGoesThroughAllKeys() {
         RunStore store = withKeysEverywhere();
         store.seek(0);
@@ -100,7 +110,17 @@ public final class CursorTest {
         store.next();
         DUE.illegalState("next() behind the end", store::next);
         DUE.is("next() behind the end: memory()", 2, store.memory());
+        DUE.is("next() behind the end: key()", RunStore.NONE, store.key());
+        DUE.is("seek(99) after that", true, store.seek(99));
+        DUE.is("next() at the last key", false, store.next());
+        DUE.is("next() at the last key: value()", 0, store.value());
+        store.remove(99);
+        DUE.is("seek(99) of a removed key", false, store.seek(99));
+        DUE.illegalState("next() after a seek that found none", store::next);
     }
+
+    // "The cursor's key; NONE when there is no cursor (so when the store is down)." and "The value of the cursor's key;
+    // 0 when there is no cursor."
 
     private static void promise15KeyAndPromise16ValueWithoutCursor() {
         RunStore store = withKeysEverywhere();
@@ -110,6 +130,18 @@ public final class CursorTest {
         store.seek(0);
         DUE.is("key() at 0", 0, store.key());
         DUE.is("value() at 0", 5, store.value());
+    }
+
+    private static void promise15KeyAndPromise16ValueOfADownStore() {
+        RunStore fresh = new RunStore();
+        DUE.is("new: key()", RunStore.NONE, fresh.key());
+        DUE.is("new: value()", 0, fresh.value());
+        RunStore store = withKeysEverywhere();
+        store.seek(99);
+        DUE.is("seek(99): value()", -9, store.value());
+        Stores.takeDown(store);
+        DUE.is("down: key()", RunStore.NONE, store.key());
+        DUE.is("down: value()", 0, store.value());
     }
 
     private static void promise16ValueIsTheNewest() {

@@ -49,6 +49,13 @@ final class Due {
         throwsOf(call, java.util.NoSuchElementException.class, tried);
     }
 
+    /** A call that throws this and leaves all that can be seen of its store as it was. */
+    void refusesUnchanged(String call, Class<? extends RuntimeException> want, RunStore store, Call tried) {
+        String before = Stores.told(store);
+        throwsOf(call, want, tried);
+        isText(call + " refused: the store", before, Stores.told(store));
+    }
+
     void end() {
         if (wrong > 0) {
             System.out.println(test + ": " + wrong + " of " + looks + " answers are not as due");
@@ -57,7 +64,7 @@ final class Due {
         System.out.println(test + ": all " + looks + " answers are as due");
     }
 
-    private void throwsOf(String call, Class<? extends RuntimeException> want, Call tried) {
+    void throwsOf(String call, Class<? extends RuntimeException> want, Call tried) {
         looks++;
         try {
             tried.run();

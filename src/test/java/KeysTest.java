@@ -1,4 +1,7 @@
-/** Promises 4 to 7, 17 and 18: put, remove, get, has, size, memory. */
+/**
+ * Promises 4 to 7, 17 and 18: put, remove, get, has, size, memory. The sentences of a promise stand over the tests of
+ * them.
+ */
 public final class KeysTest {
     private static final Due DUE = new Due("KeysTest");
 
@@ -7,10 +10,12 @@ public final class KeysTest {
         promise4PutFlushesFullMemoryBefore();
         promise4PutOfAKeyInMemoryFlushesNothing();
         promise4PutWithoutRoomLeavesTheKey();
+        promise4PutThatThrowsLeavesTheKey();
         promise4PutRefusesWrongKeys();
         promise5RemoveMarksAndTellsWhetherItWasThere();
         promise5RemoveFlushesFullMemoryBefore();
         promise5RemoveWithoutRoomLeavesTheKey();
+        promise5RemoveThatThrowsLeavesTheKey();
         promise5RemoveRefusesWrongKeys();
         promise6GetAnswersTheNewestValue();
         promise6GetThrowsForAKeyNotThere();
@@ -19,6 +24,8 @@ public final class KeysTest {
         promise18MemoryCountsMarksToo();
         DUE.end();
     }
+
+    // "A key gets a value, in memory." and "Answers how many entries memory has then."
 
     private static void promise4PutAnswersTheEntriesOfMemory() {
         RunStore store = Stores.formatted();
@@ -35,6 +42,9 @@ public final class KeysTest {
         DUE.is("put(0, 7) over a mark", 4, store.put(0, 7));
         DUE.is("get(0) over a mark", 7, store.get(0));
     }
+
+    // "When memory has 8 entries, and none with this key (with it nothing is flushed), it is flushed before; a put that
+    // throws leaves the key as it was."
 
     private static void promise4PutFlushesFullMemoryBefore() {
         RunStore store = Stores.formatted();
@@ -69,6 +79,25 @@ public final class KeysTest {
         DUE.is("one block free: room()", 1, small.room());
     }
 
+    private static void promise4PutThatThrowsLeavesTheKey() {
+        RunStore marked = Stores.withTwelveRuns();
+        marked.merge(0);
+        for (int run = 0; run < 11; run++) {
+            Stores.flushMarks(marked, 5, 1);
+        }
+        Stores.putKeys(marked, 50, 8);
+        DUE.noRoom("put(5, 1), marked, without room", () -> marked.put(5, 1));
+        DUE.is("no room: has(5)", false, marked.has(5));
+        RunStore down = Stores.formatted();
+        Stores.flushKeys(down, 5, 1);
+        Stores.putKeys(down, 50, 8);
+        down.limit(2);
+        DUE.illegalState("put(5, 1) that goes down", () -> down.put(5, 1));
+        down.recover();
+        DUE.is("put went down: get(5)", 50, down.get(5));
+        DUE.is("put went down: has(50)", false, down.has(50));
+    }
+
     private static void promise4PutRefusesWrongKeys() {
         RunStore store = Stores.formatted();
         store.put(1, 1);
@@ -80,6 +109,9 @@ public final class KeysTest {
         DUE.is("put refused: memory()", 1, store.memory());
         DUE.is("put refused: key()", 1, store.key());
     }
+
+    // "A key gets a mark, in memory, likewise (whether it is there or not)." and "Answers whether it was there
+    // (before)."
 
     private static void promise5RemoveMarksAndTellsWhetherItWasThere() {
         RunStore store = Stores.formatted();
@@ -124,6 +156,18 @@ public final class KeysTest {
         DUE.is("remove(50), in memory, without room", true, store.remove(50));
     }
 
+    private static void promise5RemoveThatThrowsLeavesTheKey() {
+        RunStore store = Stores.formatted();
+        Stores.flushKeys(store, 5, 1);
+        Stores.putKeys(store, 50, 8);
+        store.limit(2);
+        DUE.illegalState("remove(5) that goes down", () -> store.remove(5));
+        store.recover();
+        DUE.is("remove went down: get(5)", 50, store.get(5));
+        DUE.is("remove went down: memory()", 0, store.memory());
+        DUE.is("remove(5) after that", true, store.remove(5));
+    }
+
     private static void promise5RemoveRefusesWrongKeys() {
         RunStore store = Stores.formatted();
         DUE.illegalArgument("remove(-1)", () -> store.remove(-1));
@@ -131,6 +175,8 @@ public final class KeysTest {
         DUE.illegalArgument("remove(least)", () -> store.remove(Integer.MIN_VALUE));
         DUE.is("remove refused: memory()", 0, store.memory());
     }
+
+    // "The value of a key."
 
     private static void promise6GetAnswersTheNewestValue() {
         RunStore store = Stores.formatted();
@@ -153,6 +199,8 @@ public final class KeysTest {
         DUE.is("get(5) of memory", 0, store.get(5));
     }
 
+    // "NoSuchElementException when it is not there."
+
     private static void promise6GetThrowsForAKeyNotThere() {
         RunStore store = Stores.formatted();
         Stores.putKeys(store, 0, 2);
@@ -165,6 +213,8 @@ public final class KeysTest {
         DUE.illegalArgument("get(-1)", () -> store.get(-1));
         DUE.illegalArgument("get(100)", () -> store.get(100));
     }
+
+    // "Whether a key is there."
 
     private static void promise7HasLooksAtTheNewestEntry() {
         RunStore store = Stores.formatted();
@@ -183,6 +233,8 @@ public final class KeysTest {
         DUE.illegalArgument("has(100)", () -> store.has(100));
     }
 
+    // "How many keys are there."
+
     private static void promise17SizeCountsKeysNotEntries() {
         RunStore store = Stores.formatted();
         DUE.is("size() of an empty store", 0, store.size());
@@ -200,6 +252,8 @@ public final class KeysTest {
         DUE.is("size() with all keys", 100, full.size());
     }
 
+    // "How many entries memory has; NONE when the store is down."
+
     private static void promise18MemoryCountsMarksToo() {
         RunStore store = Stores.formatted();
         DUE.is("memory() at first", 0, store.memory());
@@ -209,7 +263,12 @@ public final class KeysTest {
         DUE.is("memory() with marks", 2, store.memory());
         store.flush();
         DUE.is("memory() after flush", 0, store.memory());
+        Stores.putKeys(store, 0, 8);
+        DUE.is("memory() when full", 8, store.memory());
+        store.put(8, 8);
+        DUE.is("memory() after a put that flushed", 1, store.memory());
         Stores.takeDown(store);
         DUE.is("memory() when down", RunStore.NONE, store.memory());
+        DUE.is("memory() of a new store", RunStore.NONE, new RunStore().memory());
     }
 }

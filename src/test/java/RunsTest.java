@@ -1,4 +1,7 @@
-/** Promises 8 to 10 and 19 to 21: flush, compact, merge, runs, entries, room. */
+/**
+ * Promises 8 to 10 and 19 to 21: flush, compact, merge, runs, entries, room. The sentences of a promise stand over the
+ * tests of them.
+ */
 public final class RunsTest {
     private static final Due DUE = new Due("RunsTest");
 
@@ -10,6 +13,9 @@ public final class RunsTest {
         promise9CompactMergesTheLeastLevelWithFourRuns();
         promise9CompactMergesLevelTwoInPlace();
         promise9CompactWithoutRoomThrows();
+        promise9CompactOnEachLevelNeedsFourRuns();
+        promise9CompactTakesTheLeastOfSeveralLevels();
+        promise9CompactToNothingAnswersTheLevel();
         promise10MergeTakesTheNewestEntries();
         promise10MergeBecomesTheNewestOfTheNextLevel();
         promise10MergeOfOneRunMovesIt();
@@ -21,10 +27,14 @@ public final class RunsTest {
         promise10MergeLeavesMemoryAndOtherLevels();
         promise10MergeRefusesWrongLevels();
         promise19RunsCountsEachLevel();
+        promise19RunsAtTheEdges();
         promise20EntriesFromTheNewestOn();
+        promise20EntriesAtTheEdges();
         promise21RoomCountsBlocksOfFour();
         DUE.end();
     }
+
+    // "FLUSHES." and "Answers how many entries (marks, too) the run has; 0 when there were none."
 
     private static void promise8FlushAnswersTheEntriesOfTheRun() {
         RunStore store = Stores.formatted();
@@ -86,6 +96,8 @@ public final class RunsTest {
         DUE.noRoom("flush() without a free block", just::flush);
     }
 
+    // "MERGES the least level that has more than 3 runs." and "Answers its number; NONE when there is none."
+
     private static void promise9CompactMergesTheLeastLevelWithFourRuns() {
         RunStore store = Stores.formatted();
         for (int round = 0; round < 4; round++) {
@@ -135,6 +147,66 @@ public final class RunsTest {
         DUE.is("compact() without room: runs(0)", 10, store.runs(0));
         DUE.is("compact() without room: key()", 0, store.key());
     }
+
+    private static void promise9CompactOnEachLevelNeedsFourRuns() {
+        for (int level = 0; level <= 2; level++) {
+            RunStore store = Stores.formatted();
+            for (int run = 1; run <= 4; run++) {
+                DUE.is("compact() with " + (run - 1) + " runs on level " + level, RunStore.NONE, store.compact());
+                DUE.is("compact() of nothing: runs(" + level + ")", run - 1, store.runs(level));
+                Stores.flushKeys(store, run, 1);
+                for (int merged = 0; merged < level; merged++) {
+                    store.merge(merged);
+                }
+            }
+            DUE.is("compact() with 4 runs on level " + level, level, store.compact());
+            DUE.is("compact() with 4 runs: runs(" + level + ")", level == 2 ? 1 : 0, store.runs(level));
+        }
+    }
+
+    private static void promise9CompactTakesTheLeastOfSeveralLevels() {
+        RunStore store = Stores.withFourRunsOnEachLevel();
+        DUE.is("compact() with 4 runs on each level", 0, store.compact());
+        DUE.is("compact() then", 1, store.compact());
+        DUE.is("compact() once more: runs(2)", 5, store.runs(2));
+        DUE.is("compact() once more", 2, store.compact());
+        DUE.is("compact() at last", RunStore.NONE, store.compact());
+        DUE.is("all compacted: runs(2)", 1, store.runs(2));
+        DUE.is("all compacted: entries(2, 0)", 12, store.entries(2, 0));
+        RunStore down = Stores.withFourRunsOnEachLevel();
+        down.limit(0);
+        DUE.illegalState("compact() of level 0 with limit 0", down::compact);
+        down.recover();
+        DUE.is("compact() went down: runs(1)", 4, down.runs(1));
+    }
+
+    private static void promise9CompactToNothingAnswersTheLevel() {
+        RunStore marks = Stores.formatted();
+        for (int run = 0; run < 4; run++) {
+            Stores.flushMarks(marks, run, 1);
+        }
+        DUE.is("compact() of marks alone", 0, marks.compact());
+        DUE.is("compact() of marks alone: room()", 40, marks.room());
+        for (int level = 1; level <= 2; level++) {
+            RunStore store = Stores.formatted();
+            Stores.flushKeys(store, 0, 1);
+            for (int run = 0; run < 4; run++) {
+                for (int merged = 0; merged < level; merged++) {
+                    store.merge(merged);
+                }
+                if (run < 3) {
+                    Stores.flushMarks(store, run, 1);
+                }
+            }
+            DUE.is("a value and marks: runs(" + level + ")", 4, store.runs(level));
+            DUE.is("compact() to nothing", level, store.compact());
+            DUE.is("compact() to nothing: room()", 40, store.room());
+            DUE.is("compact() to nothing: has(0)", false, store.has(0));
+        }
+    }
+
+    // "MERGES this level, if it has a run." and "Answers how many entries the new run has; 0 when the level has no run
+    // (nothing happens) or it has none."
 
     private static void promise10MergeTakesTheNewestEntries() {
         RunStore store = Stores.formatted();
@@ -303,6 +375,8 @@ public final class RunsTest {
         DUE.is("merge(1): get(3)", 30, store.get(3));
     }
 
+    // "IllegalArgumentException when level is not 0 .. 2."
+
     private static void promise10MergeRefusesWrongLevels() {
         RunStore store = Stores.formatted();
         Stores.flushKeys(store, 0, 2);
@@ -312,6 +386,8 @@ public final class RunsTest {
         DUE.illegalArgument("merge(greatest)", () -> store.merge(Integer.MAX_VALUE));
         DUE.is("merge refused: runs(0)", 1, store.runs(0));
     }
+
+    // "How many runs a level has." and "IllegalArgumentException when level is not 0 .. 2."
 
     private static void promise19RunsCountsEachLevel() {
         RunStore store = Stores.formatted();
@@ -332,6 +408,20 @@ public final class RunsTest {
         DUE.illegalArgument("runs(3)", () -> store.runs(3));
         DUE.illegalArgument("runs(least)", () -> store.runs(Integer.MIN_VALUE));
     }
+
+    private static void promise19RunsAtTheEdges() {
+        RunStore store = Stores.formatted();
+        for (int level = 0; level <= 2; level++) {
+            DUE.is("no runs: runs(" + level + ")", 0, store.runs(level));
+        }
+        RunStore twelve = Stores.withTwelveRuns();
+        DUE.is("12 runs: runs(0)", 12, twelve.runs(0));
+        DUE.is("12 runs: runs(1)", 0, twelve.runs(1));
+        DUE.illegalArgument("runs(greatest)", () -> twelve.runs(Integer.MAX_VALUE));
+    }
+
+    // "How many entries run i of a level, from the newest, 0, on has." and "NoSuchElementException when there is none
+    // such (nor such a level)."
 
     private static void promise20EntriesFromTheNewestOn() {
         RunStore store = Stores.formatted();
@@ -354,6 +444,29 @@ public final class RunsTest {
         DUE.is("entries(1, 0) after merge", 5, store.entries(1, 0));
     }
 
+    private static void promise20EntriesAtTheEdges() {
+        RunStore store = Stores.withFourRunsOnEachLevel();
+        for (int level = 0; level <= 2; level++) {
+            int at = level;
+            DUE.is("entries(" + at + ", 0)", 1, store.entries(at, 0));
+            DUE.is("entries(" + at + ", 3)", 1, store.entries(at, 3));
+            DUE.noSuch("entries(" + at + ", 4)", () -> store.entries(at, 4));
+            DUE.noSuch("entries(" + at + ", -1)", () -> store.entries(at, -1));
+            DUE.noSuch("entries(" + at + ", greatest)", () -> store.entries(at, Integer.MAX_VALUE));
+        }
+        DUE.noSuch("entries(-1, 4)", () -> store.entries(-1, 4));
+        DUE.noSuch("entries(3, -1)", () -> store.entries(3, -1));
+        DUE.noSuch("entries(least, least)", () -> store.entries(Integer.MIN_VALUE, Integer.MIN_VALUE));
+        RunStore twelve = Stores.withTwelveRuns();
+        DUE.is("entries(0, 11) of 12 runs", 1, twelve.entries(0, 11));
+        DUE.noSuch("entries(0, 12) of 12 runs", () -> twelve.entries(0, 12));
+        RunStore great = Stores.withTwentyBlocksFree();
+        DUE.is("entries(1, 0) of the greatest run", 80, great.entries(1, 0));
+        DUE.noSuch("entries(0, 0) of a level without runs", () -> great.entries(0, 0));
+    }
+
+    // "How many blocks are free."
+
     private static void promise21RoomCountsBlocksOfFour() {
         RunStore store = Stores.formatted();
         DUE.is("room() at first", 40, store.room());
@@ -369,5 +482,8 @@ public final class RunsTest {
         DUE.is("room() with entries in memory", free, store.room());
         store.merge(0);
         DUE.is("room() after a merge to 18", 35, store.room());
+        store.format();
+        DUE.is("room() after format", 40, store.room());
+        DUE.is("room() of a full disk", 0, Stores.withoutFreeBlock().room());
     }
 }

@@ -1,4 +1,7 @@
-/** Promises 1 to 3, 11 and 12: a new object, format, recover, limit, left; and going down in each call. */
+/**
+ * Promises 1 to 3, 11 and 12: a new object, format, recover, limit, left; and going down in each call. The sentences
+ * of a promise stand over the tests of them.
+ */
 public final class UpAndDownTest {
     private static final Due DUE = new Due("UpAndDownTest");
 
@@ -9,12 +12,18 @@ public final class UpAndDownTest {
         promise2FormatMakesTheDiskAnewWhenDown();
         promise2FormatThatGoesWrongLeavesTheDisk();
         promise2FormatTakesOneWrite();
+        promise2FormatBringsUpANewStore();
+        promise2FormatOfAFullDisk();
         promise3RecoverBringsUpWhatTheListSays();
+        promise3RecoverAnswersTheRunsOfAllLevels();
         promise3RecoverOfUpStoreOrNoDiskThrows();
         promise3RecoverWritesNothing();
+        promise11LimitCountsFromNowOn();
         promise11LimitsAtTheEdges();
         promise11LimitIsTakenWhenDown();
         promise11LimitOfNoneIsNeverUsedUp();
+        promise11LimitIsRefusedWithoutADisk();
+        promise12LeftWithoutALimit();
         promise12LeftTellsTheWritesThatAreLeft();
         goingDownAtEachWriteOfAFlush();
         goingDownAtEachWriteOfAMerge();
@@ -24,6 +33,8 @@ public final class UpAndDownTest {
         noRoomIsSeenBeforeTheLimit();
         DUE.end();
     }
+
+    // "The disk was never made; the store is down, no limit."
 
     private static void promise1NewObjectIsDownWithoutLimit() {
         RunStore store = new RunStore();
@@ -51,6 +62,9 @@ public final class UpAndDownTest {
         DUE.illegalArgument("new: runs(-1)", () -> store.runs(-1));
         DUE.illegalState("new: entries(3, -1)", () -> store.entries(3, -1));
     }
+
+    // "Makes the disk anew, up or down: no runs, no entries in memory; the list is written (which may go wrong: the
+    // disk is as it was then, and the store down)."
 
     private static void promise2FormatMakesTheDiskAnewWhenUp() {
         RunStore store = Stores.formatted();
@@ -96,6 +110,31 @@ public final class UpAndDownTest {
         DUE.is("format with limit 1: memory()", 0, store.memory());
     }
 
+    // "It is up then."
+
+    private static void promise2FormatBringsUpANewStore() {
+        RunStore store = new RunStore();
+        store.format();
+        lookThatStoreIsEmpty("format of a new store", store);
+        DUE.is("format of a new store: left()", RunStore.NONE, store.left());
+        DUE.is("format of a new store: put(0, 1)", 1, store.put(0, 1));
+        store.format();
+        lookThatStoreIsEmpty("format again", store);
+        DUE.is("format again: has(0)", false, store.has(0));
+    }
+
+    private static void promise2FormatOfAFullDisk() {
+        RunStore store = Stores.withoutFreeBlock();
+        Stores.putKeys(store, 80, 8);
+        store.format();
+        lookThatStoreIsEmpty("format of a full disk", store);
+        DUE.is("format of a full disk: has(8)", false, store.has(8));
+        Stores.flushKeys(store, 0, 1);
+        DUE.is("format of a full disk, then a run: room()", 39, store.room());
+    }
+
+    // "Brings the store up, if it is down, with what is on the disk (memory has no entries; nothing is written)."
+
     private static void promise3RecoverBringsUpWhatTheListSays() {
         RunStore store = Stores.formatted();
         Stores.flushKeys(store, 0, 5);
@@ -115,6 +154,25 @@ public final class UpAndDownTest {
         DUE.is("recovered: size()", 6, store.size());
         DUE.is("recovered: room()", 40 - 2 - 1 - 1, store.room());
     }
+
+    // "Answers how many runs there are."
+
+    private static void promise3RecoverAnswersTheRunsOfAllLevels() {
+        DUE.is("recover() of no runs", 0, Stores.downWithDisk().recover());
+        RunStore twelve = Stores.withFourRunsOnEachLevel();
+        Stores.takeDown(twelve);
+        DUE.is("recover() of 12 runs", 12, twelve.recover());
+        DUE.is("recover() of 12 runs: size()", 12, twelve.size());
+        RunStore full = Stores.withoutFreeBlock();
+        Stores.takeDown(full);
+        DUE.is("recover() of a full disk", 12, full.recover());
+        DUE.is("recover() of a full disk: room()", 0, full.room());
+        full.merge(2);
+        Stores.takeDown(full);
+        DUE.is("recover() after a merge to nothing", 10, full.recover());
+    }
+
+    // "IllegalStateException when it is up, or the disk was never made."
 
     private static void promise3RecoverOfUpStoreOrNoDiskThrows() {
         RunStore store = new RunStore();
@@ -139,24 +197,19 @@ public final class UpAndDownTest {
         DUE.is("recover() with limit 7: left()", 7, other.left());
     }
 
-    private static void promise11LimitsAtTheEdges() {
+    // "The limit is n writes from now on (also when the store is down); none for -1."
+
+    private static void promise11LimitCountsFromNowOn() {
         RunStore store = Stores.formatted();
-        store.limit(1000);
-        DUE.is("limit(1000): left()", 1000, store.left());
-        DUE.illegalArgument("limit(1001)", () -> store.limit(1001));
-        DUE.illegalArgument("limit(-2)", () -> store.limit(-2));
-        DUE.illegalArgument("limit(least)", () -> store.limit(Integer.MIN_VALUE));
-        DUE.illegalArgument("limit(greatest)", () -> store.limit(Integer.MAX_VALUE));
-        DUE.is("limit refused: left()", 1000, store.left());
-        store.limit(0);
-        DUE.is("limit(0): left()", 0, store.left());
-        DUE.is("limit(0): memory()", 0, store.memory());
-        store.limit(-1);
-        DUE.is("limit(-1): left()", RunStore.NONE, store.left());
-        store.put(4, 4);
-        store.seek(0);
-        store.limit(3);
-        DUE.is("limit(3) leaves the cursor", 4, store.key());
+        store.limit(2);
+        Stores.flushKeys(store, 0, 1);
+        DUE.is("limit used up: left()", 0, store.left());
+        store.limit(2);
+        Stores.flushKeys(store, 1, 1);
+        store.limit(1);
+        store.put(2, 2);
+        DUE.illegalState("limit(1) after limit(2): flush()", store::flush);
+        DUE.is("limit(1) after limit(2): recover()", 2, store.recover());
     }
 
     private static void promise11LimitIsTakenWhenDown() {
@@ -179,6 +232,56 @@ public final class UpAndDownTest {
         store.merge(0);
         store.format();
         DUE.is("limit(-1) after writes: left()", RunStore.NONE, store.left());
+    }
+
+    // "IllegalArgumentException when n is less than -1 or above 1000; IllegalStateException when the disk was never
+    // made."
+
+    private static void promise11LimitsAtTheEdges() {
+        RunStore store = Stores.formatted();
+        store.limit(1000);
+        DUE.is("limit(1000): left()", 1000, store.left());
+        DUE.illegalArgument("limit(1001)", () -> store.limit(1001));
+        DUE.illegalArgument("limit(-2)", () -> store.limit(-2));
+        DUE.illegalArgument("limit(least)", () -> store.limit(Integer.MIN_VALUE));
+        DUE.illegalArgument("limit(greatest)", () -> store.limit(Integer.MAX_VALUE));
+        DUE.is("limit refused: left()", 1000, store.left());
+        store.limit(0);
+        DUE.is("limit(0): left()", 0, store.left());
+        DUE.is("limit(0): memory()", 0, store.memory());
+        store.limit(-1);
+        DUE.is("limit(-1): left()", RunStore.NONE, store.left());
+        store.put(4, 4);
+        store.seek(0);
+        store.limit(3);
+        DUE.is("limit(3) leaves the cursor", 4, store.key());
+    }
+
+    private static void promise11LimitIsRefusedWithoutADisk() {
+        RunStore store = new RunStore();
+        for (int n : new int[] {-1, 0, 1, 1000}) {
+            DUE.illegalState("never made: limit(" + n + ")", () -> store.limit(n));
+        }
+        DUE.is("never made: left()", RunStore.NONE, store.left());
+        store.format();
+        DUE.is("limit refused, then format(): left()", RunStore.NONE, store.left());
+    }
+
+    // "The limit; NONE for none."
+
+    private static void promise12LeftWithoutALimit() {
+        RunStore store = new RunStore();
+        DUE.is("new: left()", RunStore.NONE, store.left());
+        store.format();
+        DUE.is("formatted: left()", RunStore.NONE, store.left());
+        Stores.takeDown(store);
+        DUE.is("went down: left()", RunStore.NONE, store.left());
+        store.limit(0);
+        DUE.is("down with limit(0): left()", 0, store.left());
+        store.limit(1000);
+        DUE.is("down with limit(1000): left()", 1000, store.left());
+        store.recover();
+        DUE.is("recovered with limit(1000): left()", 1000, store.left());
     }
 
     private static void promise12LeftTellsTheWritesThatAreLeft() {
