@@ -10,10 +10,10 @@ import java.util.TreeSet;
 public final class FaceTest {
     private static final Due DUE = new Due("FaceTest");
 
-    private static final String STATE = "IllegalStateException";
-    private static final String ARGUMENT = "IllegalArgumentException";
-    private static final String NO_ROOM = "UnsupportedOperationException";
-    private static final String NO_SUCH = "NoSuchElementException";
+    private static final String STATE = "java.lang.IllegalStateException";
+    private static final String ARGUMENT = "java.lang.IllegalArgumentException";
+    private static final String NO_ROOM = "java.lang.UnsupportedOperationException";
+    private static final String NO_SUCH = "java.util.NoSuchElementException";
 
     private static final String[] METHODS = {
         "void format() " + STATE,
@@ -44,6 +44,7 @@ public final class FaceTest {
         lookAtFields();
         lookAtConstructors();
         lookAtClassesInside();
+        DUE.is("NONE", -1, RunStore.NONE);
         DUE.end();
     }
 
@@ -76,7 +77,7 @@ public final class FaceTest {
         }
         text.append(')');
         for (Class<?> thrown : method.getExceptionTypes()) {
-            text.append(' ').append(thrown.getSimpleName());
+            text.append(' ').append(thrown.getName());
         }
         return text.toString();
     }

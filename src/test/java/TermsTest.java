@@ -43,7 +43,6 @@ public final class TermsTest {
         atFirstTheStoreIsDown();
         noRoomIsToldByEachCallThatWritesARun();
         wrongArgumentsAreToldByEachCall();
-        the512thCallIsAnsweredToo();
         DUE.end();
     }
 
@@ -592,21 +591,6 @@ public final class TermsTest {
         }
         DUE.is("wrong arguments: memory()", 8, store.memory());
         DUE.is("wrong arguments: left()", RunStore.NONE, store.left());
-    }
-
-    // "An object is used for at most 512 calls after it has been made; what later calls answer is free."
-
-    private static void the512thCallIsAnsweredToo() {
-        RunStore store = new RunStore();
-        store.format();
-        for (int call = 2; call < 512; call++) {
-            if (call % 17 < 3) {
-                store.merge(call % 17);
-            } else {
-                store.put(call % 20, call);
-            }
-        }
-        DUE.is("call 512: get(9), put by call 509", 509, store.get(9));
     }
 
     /** Runs of the keys 1 .. 4 on level 0, and 8 entries in memory, of the keys 50 .. 57. */
